@@ -95,10 +95,10 @@ public final class PromiseTests {
         x.row(7, 2, 3);
         x.set(7, 1, 9);
         due("2: row(7, 2, 2) in place of it", x.row(7, 2, 2), 2);
-        read("b1;s9,0;");
+        read("b1;l4,0;");
         x.light(0);
-        due("2: ITEMS are 0 at first", x.fits(0, 7, 1, 1, 0), 0);
-        x.set(7, 1, 7);
+        due("2: ITEMS are 0 at first", x.fits(0, 7, 0, 2, 0), 1 << 3);
+        x.set(7, 1, 2);
         due("2: and then what is set", x.fits(0, 7, 1, 1, 0), 1 << 1);
     }
 
@@ -310,10 +310,12 @@ public final class PromiseTests {
         faulty(eight + "b", 1, 43);
         x = new BonfireHeaps();
         due("8: fault() before one", x.fault(), 0);
+        read(eight);
         read("b2;");
         due("8: fault()", x.fault(), 2);
         due("8: a good text", read("b1;s1,0;"), 1);
         due("8: the latest stays", x.fault(), 2);
+        due("8: not of the heap before", x.place(1), BAD);
     }
 
     // ---- 9 to 15
@@ -322,6 +324,7 @@ public final class PromiseTests {
         hours();
         burning();
         heat();
+        heatOfTheFirst();
         light();
         water();
         rake();
@@ -433,6 +436,13 @@ public final class PromiseTests {
         due("16: between two", x.thing(3, 5), 4);
         due("16: two of iron, wind", x.thing(4, 5), 3);
         due("16: the last", x.thing(5, 5), 2);
+    }
+
+    private void heatOfTheFirst() {
+        fresh("b0;i9,1;s9,0;s9,0;");
+        x.swap(0, 1);
+        x.light(1);
+        due("16: the first is of iron", x.thing(2, 5), 1);
     }
 
     private void light() {
@@ -547,6 +557,22 @@ public final class PromiseTests {
         }
         due("15: the oldest are forgotten", x.thing(2, 1), 7);
         due("15: and none is left", x.undo(), STATE);
+        fresh("b1;g9,0;s4,0;");
+        x.light(0);
+        x.hours(2);
+        x.swap(0, 1);
+        x.wind();
+        x.rake(1, 1);
+        x.hours(3);
+        x.undo();
+        due("15: HOUR", x.count(2), 4);
+        due("15: SMOKE", x.count(7), 13);
+        x.undo();
+        x.undo();
+        due("15: OUT", x.undo() * 10 + x.count(5), 50);
+        due("15: WIND", x.undo() * 10 + x.count(3), 41);
+        due("15: PLACES", x.undo() * 100 + x.thing(0, 2) * 10 + x.thing(1, 2), 301);
+        due("15: HOUR", x.undo() * 10 + x.count(2), 21);
     }
 
     // ---- 16, 17, 34
@@ -637,6 +663,8 @@ public final class PromiseTests {
         x.water(1, 1);
         due("21: DEAD now", x.dead(0), 0);
         due("21: LEFT now", x.dead(1), 2);
+        fresh("b0;s8,3;l4,0;");
+        due("21: LEFT, the first too", x.dead(1), 3);
         longFire();
         x = new BonfireHeaps();
         due("18: no HEAP", x.ahead(0, 0, 0), BAD);
@@ -700,6 +728,11 @@ public final class PromiseTests {
         due("22: no HEAP", x.kindle(-1, 0, 9), STATE);
         fresh("b0;l9,1;s9,0;l9,1;s9,0;l9,1;");
         due("22: of several the fewest", x.kindle(21, 60, 1), 2);
+        due("22: all there are", x.kindle(31, 60, 1), 2);
+        fresh("b0;l1,0;l1,0;l1,0;l1,0;l1,0;l1,0;l1,0;l1,0;");
+        due("22: all by hand", x.kindle(255, 1, 1), 255);
+        due("22: so many", x.kindle(255, 1, 0), 8);
+        due("22: from the middle", x.kindle(255, 5, 1), 8);
     }
 
     private void spare() {
@@ -727,6 +760,13 @@ public final class PromiseTests {
         due("23: 4 of HEAT, 20 at most", x.spare(1, 30), NONE);
         due("23: 5 HOURS", x.spare(1, 5), 14);
         due("23: nothing changed", x.thing(1, 1), 3);
+        due("23: 1 HOUR", x.spare(1, 1), 0);
+        // HEAT 3 in the first HOUR, then 2: 19 behind 9 of them
+        fresh("b1;l4,0;d1,0;s9,0;g30,0;");
+        x.light(0);
+        x.light(3);
+        due("23: 10 HOURS by all the water", x.spare(2, 10), 20);
+        due("23: 11 HOURS", x.spare(2, 11), NONE);
     }
 
     private void laying() {
@@ -745,6 +785,15 @@ public final class PromiseTests {
         due("24: laying(31, 0)", x.laying(31, 0), BAD);
         due("24: laying(1, 2)", x.laying(1, 2), BAD);
         due("24: nothing changed", x.place(0), 0);
+        fresh("b0;d9,0;s4,0;d9,0;d9,0;s4,0;");
+        x.light(1);
+        due("24: with the first", x.laying(5, 0), 4);
+        x.swap(0, 2);
+        x.rake(0, 1);
+        due("24: one that is OUT, too", x.laying(5, 1), 2);
+        fresh("b0;d9,0;d9,0;s4,0;d9,0;d9,0;s4,0;");
+        x.light(2);
+        due("24: without the first", x.laying(5, 0), 15);
         x = new BonfireHeaps();
         due("24: no HEAP", x.laying(0, 5), STATE);
     }
@@ -930,6 +979,8 @@ public final class PromiseTests {
         x.hours(9);
         due("29: once more", x.restore(1), 1);
         due("29: HOUR", x.count(2), 1);
+        due("29: no ACTS", x.count(8), 0);
+        due("29: restore(2)", x.restore(2), BAD);
         due("28: image(0)", x.image(0), 1);
         x.water(0, 9);
         due("28: another in place of it", x.image(1), 1);
