@@ -93,6 +93,7 @@ public final class PromiseTests {
         due("2: row(7, 2, -1) keeps the row", x.row(7, 2, -1), SIZE);
         due("2: drop(7)", x.drop(7), 40);
         x.row(7, 2, 3);
+        x.set(7, 0, 9);
         x.set(7, 1, 9);
         due("2: row(7, 2, 2) in place of it", x.row(7, 2, 2), 2);
         read("b1;l4,0;");
