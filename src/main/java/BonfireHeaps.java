@@ -544,10 +544,10 @@ public final class BonfireHeaps {
         private boolean readThing(Heap heap) {
             int kind = at < size ? SORTS.indexOf((char) bytes[at]) + 1 : 0;
             if (kind == 0) {
-                return isFaulty(UNREADABLE);
+                return failWith(UNREADABLE);
             }
             if (heap.things >= MOST_THINGS) {
-                return isFaulty(NO_ROOM);
+                return failWith(NO_ROOM);
             }
             at++;
             if (!readNumber(1, MOST_STUFF) || !readSign(',')) {
@@ -563,7 +563,7 @@ public final class BonfireHeaps {
 
         private boolean readSign(int sign) {
             if (at >= size || bytes[at] != sign) {
-                return isFaulty(UNREADABLE);
+                return failWith(UNREADABLE);
             }
             at++;
             return true;
@@ -577,17 +577,17 @@ public final class BonfireHeaps {
                 end++;
             }
             if (end == at || end == at + 3) {
-                return isFaulty(UNREADABLE);
+                return failWith(UNREADABLE);
             }
             if (!isWithin(value, least, most)) {
-                return isFaulty(OUT_OF_BOUNDS);
+                return failWith(OUT_OF_BOUNDS);
             }
             number = value;
             at = end;
             return true;
         }
 
-        private boolean isFaulty(int fault) {
+        private boolean failWith(int fault) {
             latestFault = fault;
             return false;
         }
