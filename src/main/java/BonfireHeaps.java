@@ -664,7 +664,7 @@ public final class BonfireHeaps {
 
         /** Whether it could yet burn some day, however wet it is. */
         boolean canBurn(int thing) {
-            return isOfKind(kinds[thing], STICK) && !isAsh(thing) && !isOut(thing);
+            return STUFF_AN_HOUR[kinds[thing]] > 0 && !isAsh(thing) && !isOut(thing);
         }
 
         boolean mayBeLit(int thing) {
@@ -739,14 +739,11 @@ public final class BonfireHeaps {
         }
 
         void passHour() {
-            // where nothing is lit there is no heat, and nothing changes
-            if (lit != 0) {
-                burnAnHour();
-            }
             hour++;
-        }
-
-        private void burnAnHour() {
+            if (lit == 0) {
+                // where nothing is lit there is no heat, and nothing else changes
+                return;
+            }
             int litAhead = lit;
             int fire = placesLit();
             int hotIron = placesOfHotIron(fire);

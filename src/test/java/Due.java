@@ -30,7 +30,7 @@ final class Due {
     }
 
     void end(String test) {
-        System.out.println(test + ": " + (checked - wrong) + " answers as due, " + wrong + " not");
+        System.out.println(test + ": " + (checked - wrong) + " passed, " + wrong + " failed");
         if (wrong != 0) {
             System.exit(1);
         }

@@ -104,9 +104,7 @@ public final class FaceTests {
     }
 
     private void source(String text) {
-        for (int i = 0; i < text.length(); i++) {
-            due.holds("sign " + (int) text.charAt(i), text.charAt(i) < 128);
-        }
+        due.holds("a sign that is none of 1 to 127", text.chars().allMatch(sign -> sign > 0 && sign < 128));
         String code = text.replaceAll("(?s)/\\*.*?\\*/", " ").replaceAll("//[^\n]*", " ")
             .replaceAll("\"[^\"\n]*\"", "\"\"").replaceAll("'[^']'", "' '");
         for (String word : WORDS) {
