@@ -10,6 +10,7 @@ public final class ActEdgeTests extends Edges {
         ActEdgeTests tests = new ActEdgeTests();
         tests.hours();
         tests.lastHour();
+        tests.beyondTheLastHour();
         tests.burning();
         tests.catching();
         tests.light();
@@ -62,7 +63,7 @@ public final class ActEdgeTests extends Edges {
 
     /** In 416 calls to HOUR 9984, and then so many more. */
     private static BonfireHeaps late(int more) {
-        BonfireHeaps x = reading("b1;s9,3;i4,0;");
+        BonfireHeaps x = reading("b1;s9,0;i4,3;");
         for (int i = 0; i < 416; i++) {
             x.hours(24);
         }
@@ -129,15 +130,33 @@ public final class ActEdgeTests extends Edges {
         });
     }
 
+    private void beyondTheLastHour() {
+        test("18 to 27: what is FORETOLD has no last HOUR", () -> {
+            x = late(15);
+            x.light(0);
+            due("ahead(0, 2, 0)", x.ahead(0, 2, 0), 5);
+            due("later(60, 1)", x.later(60, 1), 5);
+            due("when(0, 1)", x.when(0, 1), 5);
+            due("dead(0)", x.dead(0), 5);
+            due("kindle(1, 60, 1)", x.kindle(1, 60, 1), 0);
+            due("spare(0, 30)", x.spare(0, 30), 1);
+            due("laying(30, 1)", x.laying(30, 1), 1);
+            due("rain(0, 60, 1, 0)", x.rain(0, 60, 1, 0), 9);
+            due("drawn(0, 1, 0)", x.drawn(0, 1, 0), 0);
+            due("HOUR", x.count(2), 9999);
+        });
+    }
+
     private void fullAt(int more, int n) {
         x = late(more);
         String call = "hours(" + n + ") at " + (9984 + more);
+        // status() is 3 then
         x.as(0, 5);
         due(call, x.hours(n), FULL);
         due("status() behind " + call, x.status(), 3);
         due("HOUR behind " + call, x.count(2), 9984 + more);
         due("ACTS behind " + call, x.count(8), 24);
-        due("WET behind " + call, x.thing(0, 1), 3);
+        due("WET behind " + call, x.thing(1, 1), 3);
         due("undo() behind " + call, x.undo(), 23);
         due("HOUR then", x.count(2), 9983 + more);
     }

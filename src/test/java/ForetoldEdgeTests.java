@@ -268,6 +268,13 @@ public final class ForetoldEdgeTests extends Edges {
             due("two of four", x.kindle(15, 2, 1), 5);
             due("all of four", x.kindle(15, 1, 1), 15);
         });
+        test("22 kindle: all 8 by hand", () -> {
+            fresh("b0;l1,0;l1,0;l1,0;l1,0;l1,0;l1,0;l1,0;l1,0;");
+            due("how many", x.kindle(255, 1, 0), 8);
+            due("which", x.kindle(255, 1, 1), 255);
+            due("all but the last", x.kindle(127, 1, 0), 7);
+            due("all but the last, which", x.kindle(127, 1, 1), 127);
+        });
         test("22 kindle: fewer is ahead of the lesser bits", () -> {
             fresh("b0;l4,0;l4,0;l4,0;");
             x.swap(1, 2);
@@ -623,6 +630,9 @@ public final class ForetoldEdgeTests extends Edges {
             fraction("ASH behind 2", 1, 2, 5, 1, 4);
             fraction("ASH behind 3", 1, 3, 5, 1, 4);
             fraction("ASH behind 4", 1, 4, 5, 1, 2);
+            lit("b0;g30,0;l1,1;");
+            fraction("WET 1 and 3, ASH behind 3", 1, 3, 5, 1, 4);
+            fraction("WET 1 and 3, ASH behind 4", 1, 4, 5, 1, 2);
             lit("b0;g30,0;l1,18;");
             fraction("WET 18 is ASH behind 11", 1, 11, 5, 1, 4);
             fraction("WET 20 is ASH behind 12", 1, 12, 5, 1, 2);
@@ -671,6 +681,21 @@ public final class ForetoldEdgeTests extends Edges {
             for (int seed : new int[] {0, -1, 1000000, 1000001, LEAST, MOST}) {
                 refusedInFull(BAD, "drawn(0, " + seed + ", 0)", y -> y.drawn(0, seed, 0));
             }
+        });
+        test("27 drawn: each is LIT by even X alone, watered by 5, WIND by 7", () -> {
+            fresh("b1;s9,0;i4,2;g12,0;l9,3;s20,0;d3,0;g30,1;");
+            years(12, 1, 1, 17);
+            years(20, 1, 3, 49);
+            years(60, 1, 4, 81);
+            years(12, 2, 2, 41);
+            years(60, 2, 4, 123);
+            years(59, 7, 4, 108);
+            years(60, 7, 4, 111);
+            years(60, 51, 3, 103);
+            years(60, 12345, 4, 51);
+            years(12, 999998, 0, 0);
+            years(60, 999998, 4, 135);
+            years(60, 999999, 4, 87);
         });
         test("27 drawn: what is 0 or 1", () -> {
             for (int what : NEITHER) {

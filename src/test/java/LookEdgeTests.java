@@ -137,6 +137,14 @@ public final class LookEdgeTests extends Edges {
             x.wind();
             heats("both are, WIND up", 1, 2, 3, 2, 1);
         });
+        test("16 thing: iron is hot as the first THING and as the last", () -> {
+            fresh("b0;i9,0;s9,0;d9,0;i9,0;");
+            x.light(1);
+            x.swap(0, 2);
+            heats("the first in PLACE 2", 2, 1, 2, 1);
+            x.swap(0, 3);
+            heats("the last in PLACE 2", 1, 1, 2, 2);
+        });
         test("16 thing: iron with two LIT ones beside gives 1", () -> {
             fresh("b1;s9,0;i9,0;s9,0;");
             x.light(0);

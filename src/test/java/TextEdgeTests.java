@@ -222,6 +222,15 @@ public final class TextEdgeTests extends Edges {
             good(text.substring(0, 10), 1);
             good(text, 2);
         });
+        test("7 heap: nothing behind the end is read, though there was a longer text before", () -> {
+            String text = "b1;s30,20;g1,0;";
+            for (int end = 0; end < text.length(); end++) {
+                x = reading(text);
+                int answer = read(text.substring(0, end));
+                due("heap() of the first " + end, answer, end == 10 ? 1 : -1000100 - end);
+                due("THINGS", x.count(1), end == 10 ? 1 : 2);
+            }
+        });
         test("7 heap: the first TOKEN that has a FAULT", () -> {
             faulty("b2;s0,99;?", 2, 1);
             faulty("b1;s31,99", 2, 4);
