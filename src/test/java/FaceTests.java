@@ -63,6 +63,9 @@ public final class FaceTests {
             } else {
                 due.holds("public " + method.getName(), method.getModifiers() == Modifier.PUBLIC
                     && method.getReturnType() == int.class);
+                for (Class<?> taken : method.getParameterTypes()) {
+                    due.holds(method.getName() + " takes " + taken, taken == int.class);
+                }
                 seen.add(method.getName() + " " + method.getParameterCount());
             }
         }
@@ -116,6 +119,24 @@ public final class FaceTests {
         due.holds("an annotation", !code.contains("@"));
         due.holds("a name that ends in Exact", !Pattern.compile("\\w+Exact\\b").matcher(code).find());
         shortMethods(text);
+        headings(text);
+    }
+
+    /** The document says what the interface says ahead of which calls. */
+    private void headings(String text) {
+        Map<String, String> told = Map.of("row", "rows", "feed", "heaps, acts", "ahead", "foretold",
+            "kind", "asked");
+        StringBuilder wanted = new StringBuilder();
+        for (String name : FACE) {
+            String call = name.substring(0, name.indexOf(' '));
+            wanted.append(told.containsKey(call) ? "---- " + told.get(call) + "\n" : "").append(call).append('\n');
+        }
+        StringBuilder got = new StringBuilder();
+        Matcher lines = Pattern.compile("(?m)^    (?:// (---- .*)|public int (\\w+)\\(.*)$").matcher(text);
+        while (lines.find()) {
+            got.append(lines.group(1) != null ? lines.group(1) : lines.group(2)).append('\n');
+        }
+        due.holds("the calls and what stands ahead of them: " + got, got.toString().equals(wanted.toString()));
     }
 
     /** A method ends at the first brace that stands as far in as its head. */

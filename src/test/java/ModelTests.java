@@ -28,7 +28,7 @@ public final class ModelTests {
             tests.oneRun(run);
         }
         tests.everyAnswerWasSeen();
-        if (args.length > 2) {
+        if (args.length > 1) {
             tests.seen.forEach((call, answers) -> System.out.println(call + " " + answers));
         }
         tests.due.end("ModelTests");
